@@ -959,11 +959,12 @@ public final class BallsInAir {
             int end = Math.min(length, STEP_THROWS);
             for (int j = 1; j < end; j++) {
                 for (int i = 0; i < j; i++) {
-                    int up = code / PLACE_VALUES[j] % 10 + (j - i);
-                    int down = code / PLACE_VALUES[i] % 10 - (j - i);
+                    int early = code / PLACE_VALUES[i] % 10;
+                    int late = code / PLACE_VALUES[j] % 10;
+                    int up = late + (j - i);
+                    int down = early - (j - i);
                     if (isHeight(up) && isHeight(down)) {
-                        int less = (up - (j - i)) * PLACE_VALUES[j] + (down + (j - i)) * PLACE_VALUES[i];
-                        enqueue(code - less + up * PLACE_VALUES[i] + down * PLACE_VALUES[j], depth);
+                        enqueue(code + (up - early) * PLACE_VALUES[i] + (down - late) * PLACE_VALUES[j], depth);
                     }
                 }
             }

@@ -405,6 +405,7 @@ public final class PromisesTest {
         due("nth of Long.MIN_VALUE", x.nth(3, 3, 9, Long.MIN_VALUE), BAD);
         due("primes(7, 3, 9)", x.primes(7, 3, 9), BAD);
         due("primes(8, 3, 9)", x.primes(8, 3, 9), BAD);
+        due("draw by 9999 of one alone", x.draw(1, 3, 9, 9999), 3);
         due("draw by -1", x.draw(3, 3, 9, -1), BAD);
         due("draw by 10000", x.draw(3, 3, 9, 10000), BAD);
         due("draw by 10000: BAD is ahead of NONE", x.draw(3, 3, 2, 10000), BAD);
@@ -487,6 +488,13 @@ public final class PromisesTest {
         due("another number of balls", x.steps(), NONE);
         layAnother("51");
         due("not as many throws", x.steps(), NO);
+        start("55555");
+        layAnother("49552");
+        due("all 120 arrangements looked at in vain", x.steps(), NONE);
+        due("and once more", x.steps(), NONE);
+        layAnother("97531");
+        due("55555 to 97531", x.steps(), 2);
+        due("and once more", x.steps(), 2);
         start("333333");
         layAnother("333333");
         due("six throws", x.steps(), NO);
@@ -515,6 +523,8 @@ public final class PromisesTest {
         due("mended(0, 3)", x.mended(0, 3), BAD);
         due("mended(0, 10)", x.mended(0, 10), BAD);
         due("mended(1, 4)", x.mended(1, 4), BAD);
+        start("900");
+        due("mended(0, 8): by 9s of the others, and a 1 at beat 8", x.mended(0, 8), 8);
         start("60");
         due("together at a 0", x.together(1, 3), NO);
         due("mended at a 0", x.mended(1, 3), NO);
