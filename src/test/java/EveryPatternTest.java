@@ -17,9 +17,9 @@ public final class EveryPatternTest {
 
     /** all() and primes() for every p, b, m. */
     private void listsOfAll() {
-        BallsInAir x = new BallsInAir();
         Model y = new Model();
         for (int p = 1; p <= 8; p++) {
+            BallsInAir x = new BallsInAir();
             for (int b = 1; b <= 6; b++) {
                 for (int m = 1; m <= 9; m++) {
                     String of = "(" + p + ", " + b + ", " + m + ")";
@@ -32,12 +32,12 @@ public final class EveryPatternTest {
 
     /** Every pattern of a list by nth(), its rank() and the next() one. */
     private void orderOfLists() {
-        BallsInAir x = new BallsInAir();
         for (int p = 1; p <= 8; p++) {
             for (int b = 1; b <= 6; b++) {
                 List<String> list = Model.listed(p, b, 9);
                 int stride = 1 + list.size() / 400;
                 for (int i = 0; i < list.size(); i += stride) {
+                    BallsInAir x = new BallsInAir();
                     x.nth(p, b, 9, i);
                     isPattern(x, list.get(i));
                     checks.same("rank() of " + list.get(i), x.rank(), i);
@@ -119,10 +119,14 @@ public final class EveryPatternTest {
     private void stepsFrom(String from, List<String> list) {
         BallsInAir x = new BallsInAir();
         Model y = new Model();
-        layBoth(x, y, 0, from);
-        for (String to : list) {
-            layBoth(x, y, 1, to);
-            checks.same("steps() from " + from + " to " + to, x.steps(), y.steps());
+        for (int i = 0; i < list.size(); i++) {
+            // An object is promised to answer 512 calls: fifty times wipe, write, lay and steps stay below that.
+            if (i % 50 == 0) {
+                x = new BallsInAir();
+                layBoth(x, y, 0, from);
+            }
+            layBoth(x, y, 1, list.get(i));
+            checks.same("steps() from " + from + " to " + list.get(i), x.steps(), y.steps());
         }
     }
 

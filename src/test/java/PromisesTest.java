@@ -1,11 +1,5 @@
 /** Each promise of the document by ordinary inputs, its edges and wrong inputs, with answers found by hand. */
-public final class PromisesTest {
-    private static final int BAD = -1, NO = -2, FULL = -3, NONE = -4;
-    private static final int LOW = Integer.MIN_VALUE, HIGH = Integer.MAX_VALUE;
-
-    private final Checks checks = new Checks();
-    private BallsInAir x = new BallsInAir();
-
+public final class PromisesTest extends Bench {
     public static void main(String[] args) {
         PromisesTest test = new PromisesTest();
         test.patterns();
@@ -20,40 +14,6 @@ public final class PromisesTest {
         test.keeping();
         test.refusalsChangeNothing();
         test.checks.end();
-    }
-
-    private void due(String call, long got, long want) {
-        checks.same(call, got, want);
-    }
-
-    private void fresh() {
-        x = new BallsInAir();
-    }
-
-    private void text(String row) {
-        x.wipe();
-        for (int i = 0; i < row.length(); i++) {
-            x.write(1, row.charAt(i));
-        }
-    }
-
-    /** A new object with this pattern. */
-    private void start(String row) {
-        fresh();
-        text(row);
-        due("lay(0) of " + row, x.lay(0), row.length());
-    }
-
-    private void layAnother(String row) {
-        text(row);
-        due("lay(1) of " + row, x.lay(1), row.length());
-    }
-
-    private void isPattern(int which, String row) {
-        for (int i = 0; i < row.length(); i++) {
-            due("toss(" + which + ", " + i + ") of " + row, x.toss(which, i), row.charAt(i) - '0');
-        }
-        due("count(" + which + ") of " + row, x.count(which), row.length());
     }
 
     private void patterns() {

@@ -1,16 +1,21 @@
 import java.util.Random;
 
-/** Runs of up to 512 calls on a new object, each answer compared with the model's. */
+/** Runs of calls on a new object, not more than it is promised to answer, each answer compared with the model's. */
 public final class RandomRunsTest {
     private static final int[] WILD = {
         Integer.MIN_VALUE, Integer.MAX_VALUE, -100, -10, -3, -2, -1, 10, 11, 40, 511, 512, 100000, 100001
     };
+
+    private static final int MOST_CALLS = 512;
+    // So many are made at the most between two looks at how many were made.
+    private static final int MOST_AT_ONCE = 40;
 
     private final Checks checks = new Checks();
     private final Random random;
     private BallsInAir x;
     private Model y;
     private int run;
+    private int calls;
 
     private RandomRunsTest(long seed) {
         random = new Random(seed);
@@ -18,12 +23,13 @@ public final class RandomRunsTest {
 
     public static void main(String[] args) {
         RandomRunsTest test = new RandomRunsTest(args.length > 0 ? Long.parseLong(args[0]) : 20261118L);
-        int runs = args.length > 1 ? Integer.parseInt(args[1]) : 400;
+        int runs = args.length > 1 ? Integer.parseInt(args[1]) : 1200;
         for (test.run = 0; test.run < runs; test.run++) {
             test.x = new BallsInAir();
             test.y = new Model();
-            for (int call = 0; call < 120; call++) {
-                test.callOne();
+            test.calls = 0;
+            while (test.calls <= MOST_CALLS - MOST_AT_ONCE) {
+                test.callSome();
             }
         }
         test.checks.end();
@@ -45,7 +51,9 @@ public final class RandomRunsTest {
         return number(1, random.nextInt(6) == 0 ? 8 : 6);
     }
 
+    /** One call of the run. */
     private void same(String call, long got, long due) {
+        calls++;
         checks.same("run " + run + ", pattern now " + y.pattern() + ": " + call, got, due);
     }
 
@@ -90,7 +98,7 @@ public final class RandomRunsTest {
         return row.toString();
     }
 
-    private void callOne() {
+    private void callSome() {
         switch (random.nextInt(8)) {
             case 0:
                 layOne();
