@@ -12,6 +12,7 @@ public final class BoundsOfSlipsTest extends Bench {
         test.slipsRefused();
         test.slipsAtAThrowByNone();
         test.mendedByOneToNine();
+        test.mendedGoesRound();
         test.mendedOfNone();
         test.mendedIfNotTogether();
         test.keepTwo();
@@ -135,6 +136,19 @@ public final class BoundsOfSlipsTest extends Bench {
         due("mended(1, 1) of 02: at 2, by 1 to 3", x.mended(1, 1), 1);
         start("20");
         due("mended(0, 9) of 20", x.mended(0, 9), 9);
+    }
+
+    // "as THE PATTERN has it ahead of BEAT k, n and 1 together"
+
+    private void mendedGoesRound() {
+        start("531");
+        // At beats 4, 5 and 6 balls come down then: by 3 and 3, at 4 and 5, they are at 6, 7 and 8 as ahead of beat 6.
+        due("mended(2, 4) of 531", x.mended(2, 4), 3);
+        // At beats 2, 5 and 6: none may be at 6 ahead of beats 3, 4 and 5, but ahead of 6, with others at 7 and 8.
+        due("mended(1, 5) of 531", x.mended(1, 5), 4);
+        start("51");
+        // At beats 3, 4 and 5: by 4, at 3, they are at 4, 5 and 7 as ahead of beat 4.
+        due("mended(1, 3) of 51", x.mended(1, 3), 2);
     }
 
     // "none (TOGETHER is 1, or there is none)"
