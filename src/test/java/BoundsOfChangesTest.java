@@ -25,6 +25,7 @@ public final class BoundsOfChangesTest extends Bench {
         test.undoWhereItStayed();
         test.undoLeavesOutTheRefused();
         test.undoOverLengths();
+        test.upToTheLastCall();
         test.checks.end();
     }
 
@@ -375,5 +376,18 @@ public final class BoundsOfChangesTest extends Bench {
         isPattern(0, "6");
         due("undo() from one to ten", x.undo(), 0);
         isPattern(0, TEN);
+    }
+
+    // "An object is used for at most 512 calls after it has been made"
+
+    private void upToTheLastCall() {
+        fresh();
+        String row = "531";
+        for (int call = 1; call <= 504; call++) {
+            due("turn(1), call " + call, x.turn(1), row.charAt(call % 3) - '0');
+        }
+        for (int call = 505; call <= 512; call++) {
+            due("undo(), call " + call, x.undo(), 512 - call);
+        }
     }
 }
