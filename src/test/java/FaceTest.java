@@ -34,6 +34,7 @@ public final class FaceTest {
         FaceTest test = new FaceTest();
         test.publicFace();
         test.hiddenRest();
+        test.sizes();
         test.source();
         test.checks.end();
     }
@@ -94,6 +95,23 @@ public final class FaceTest {
             checks.holds(method + " bears no public name", isPublic || !names.contains(method.getName()));
             checks.holds(method + " takes seven at most", method.getParameterCount() <= 7);
         }
+    }
+
+    private void sizes() {
+        Class<?>[] inside = BallsInAir.class.getDeclaredClasses();
+        checks.holds("twelve classes at most", inside.length + 1 <= 12);
+        fewFields(BallsInAir.class);
+        for (Class<?> one : inside) {
+            fewFields(one);
+        }
+    }
+
+    private void fewFields(Class<?> of) {
+        int fields = 0;
+        for (Field field : of.getDeclaredFields()) {
+            fields += Modifier.isStatic(field.getModifiers()) ? 0 : 1;
+        }
+        checks.holds(of + " has twenty fields at most", fields <= 20);
     }
 
     private void source() throws IOException {
